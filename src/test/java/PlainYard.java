@@ -2,6 +2,7 @@ import java.math.BigInteger;
 import java.util.ArrayDeque;
 import java.util.ArrayList;
 import java.util.Arrays;
+import java.util.BitSet;
 import java.util.Deque;
 import java.util.HashMap;
 import java.util.HashSet;
@@ -462,12 +463,14 @@ final class PlainYard {
                 .mapToInt(Map.Entry::getKey).min().getAsInt();
     }
 
-    private Set<Integer> allFrom(int start) {
-        Set<Integer> seen = new HashSet<>(List.of(start));
-        Deque<Integer> open = new ArrayDeque<>(seen);
+    private BitSet allFrom(int start) {
+        BitSet seen = new BitSet();
+        seen.set(start);
+        Deque<Integer> open = new ArrayDeque<>(List.of(start));
         while (!open.isEmpty()) {
             for (Edge edge : graph().get(open.remove())) {
-                if (seen.add(edge.target)) {
+                if (!seen.get(edge.target)) {
+                    seen.set(edge.target);
                     open.add(edge.target);
                 }
             }
@@ -482,26 +485,23 @@ final class PlainYard {
         if (what < 0 || what > 3) {
             return none(1);
         }
-        Map<Integer, Set<Integer>> reached = new TreeMap<>();
+        Map<Integer, BitSet> reached = new TreeMap<>();
         for (int s : graph().keySet()) {
             reached.put(s, allFrom(s));
         }
-        Set<Set<Integer>> sets = new HashSet<>();
+        Set<BitSet> sets = new HashSet<>();
         int closed = 0;
         int greatest = 0;
         int own = 0;
         for (int s : graph().keySet()) {
-            Set<Integer> set = new HashSet<>();
-            for (int t : reached.get(s)) {
-                if (reached.get(t).contains(s)) {
-                    set.add(t);
-                }
-            }
+            BitSet set = new BitSet();
+            reached.get(s).stream().filter(t -> reached.get(t).get(s)).forEach(set::set);
+            int size = set.cardinality();
             if (sets.add(set)) {
-                closed += reached.get(s).size() == set.size() ? 1 : 0;
-                greatest = Math.max(greatest, set.size());
+                closed += reached.get(s).cardinality() == size ? 1 : 0;
+                greatest = Math.max(greatest, size);
             }
-            own = s == number(false) ? set.size() : own;
+            own = s == number(false) ? size : own;
         }
         return new int[] {sets.size(), own, closed, greatest}[what];
     }

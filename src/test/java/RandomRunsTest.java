@@ -4,41 +4,107 @@ import java.util.Random;
 public final class RandomRunsTest {
     private static final int[] ODD = {Integer.MIN_VALUE, Integer.MAX_VALUE, -1, -2, 5, 6, 7, 8, 9, 61,
         100, 101, 20000, 78125, 1 << 30, Integer.MIN_VALUE + 1};
-    private static final int[][] YARDS = {{2, 1}, {2, 3}, {2, 7}, {3, 1}, {3, 2}, {3, 3}, {3, 4}, {4, 1},
-        {4, 2}, {4, 3}, {5, 1}, {5, 2}, {5, 3}, {5, 7}};
+    private static final int[][] YARDS = {{2, 1}, {2, 3}, {2, 6}, {2, 7}, {3, 1}, {3, 2}, {3, 3}, {3, 4}, {4, 1},
+        {4, 2}, {4, 3}, {4, 4}, {5, 1}, {5, 2}, {5, 3}, {5, 7}};
 
     private final Random lot;
     private final DiscYard yard = new DiscYard();
     private final PlainYard plain = new PlainYard();
     private final StringBuilder told = new StringBuilder();
+    /** How much of a run each sort of call is: undoing needs runs that seldom change the yard. */
+    private final int changing;
+    private final int moving;
+    private final int asking;
+    private final int scheming;
+    private final int favouriteKind;
+    private int calls;
 
     private RandomRunsTest(long seed) {
         lot = new Random(seed);
+        changing = 1 + lot.nextInt(lot.nextBoolean() ? 3 : 40);
+        moving = 1 + lot.nextInt(60);
+        asking = 1 + lot.nextInt(40);
+        scheming = 1 + lot.nextInt(40);
+        favouriteKind = lot.nextInt(8);
     }
 
     public static void main(String[] args) {
-        int runs = args.length > 0 ? Integer.parseInt(args[0]) : 600;
+        int runs = args.length > 0 ? Integer.parseInt(args[0]) : 1000;
         for (int seed = 1; seed <= runs && Check.wrong() == 0; seed++) {
             Check.part("run " + seed);
-            new RandomRunsTest(seed).run(seed % 10 == 0 ? 512 : 40 + seed % 150);
+            new RandomRunsTest(seed).run(seed % 3 == 0 ? 500 : 40 + seed % 150);
         }
         Check.end();
     }
 
-    private void run(int calls) {
-        for (int k = 0; k < calls; k++) {
+    /** Most runs begin in a yard with something to do: by lot alone they seldom come to one. */
+    private void begin() {
+        newYard();
+        if (lot.nextInt(4) != 0) {
+            Check.due(note("lanes"), yard.lanes(), plain.lanes());
+        }
+        for (int k = lot.nextInt(4); k > 0; k--) {
+            newStand();
+        }
+        for (int k = lot.nextInt(2 * plain.size(1)); k > 0; k--) {
+            newKind();
+        }
+        for (int k = lot.nextInt(8); k > 0; k--) {
+            change(5 + lot.nextInt(9));
+        }
+    }
+
+    private void newYard() {
+        int[] size = YARDS[lot.nextInt(YARDS.length)];
+        int pegs = size[0];
+        int discs = size[1];
+        if (lot.nextInt(9) == 0) {
+            pegs = below(7);
+            discs = below(4);
+        }
+        if (discs > 4 && discs < 8 && pegs > 2 && pegs < 6 && pegs + discs != 12) {
+            // The plain model takes minutes for the greater yards.
+            discs = 3;
+        }
+        Check.due(note("yard", pegs, discs), yard.yard(pegs, discs), plain.yard(pegs, discs));
+    }
+
+    private void newKind() {
+        int disc = below(plain.size(1));
+        int kind = favouriteKind < 4 && lot.nextInt(3) != 0 ? favouriteKind : below(4);
+        Check.due(note("kind", disc, kind), yard.kind(disc, kind), plain.kind(disc, kind));
+    }
+
+    private void newStand() {
+        int number = below((int) Math.pow(plain.size(0), plain.size(1)));
+        boolean goal = lot.nextInt(3) != 0;
+        Check.due(note("stand", number, goal ? 1 : 0), yard.stand(number, goal), plain.stand(number, goal));
+    }
+
+    private void run(int most) {
+        if (lot.nextInt(10) != 0) {
+            begin();
+        }
+        while (calls < most && Check.wrong() == 0) {
             one();
+            calls++;
             Check.due("trouble()", yard.trouble(), plain.trouble());
-            Check.due("failed()", yard.failed(), plain.failed());
-            Check.due("number(false)", yard.number(false), plain.number(false));
-            Check.due("number(true)", yard.number(true), plain.number(true));
-            for (int what = 0; what < 8; what++) {
-                Check.due("size(" + what + ")", yard.size(what), plain.size(what));
+            if (lot.nextInt(6) == 0) {
+                state();
             }
-            if (Check.wrong() != 0) {
-                System.out.println(told);
-                return;
-            }
+        }
+        if (Check.wrong() != 0) {
+            System.out.println(told);
+        }
+    }
+
+    private void state() {
+        calls += 11;
+        Check.due("failed()", yard.failed(), plain.failed());
+        Check.due("number(false)", yard.number(false), plain.number(false));
+        Check.due("number(true)", yard.number(true), plain.number(true));
+        for (int what = 0; what < 8; what++) {
+            Check.due("size(" + what + ")", yard.size(what), plain.size(what));
         }
     }
 
@@ -48,6 +114,7 @@ public final class RandomRunsTest {
             call.append(k == 0 ? "" : ", ").append(args[k]);
         }
         call.append(')');
+        calls++;
         told.append(call).append("; ");
         return call.toString();
     }
@@ -57,7 +124,7 @@ public final class RandomRunsTest {
     }
 
     private int pegNumber() {
-        return below(yard.size(0));
+        return below(plain.size(0));
     }
 
     private int[] five(int many) {
@@ -78,28 +145,23 @@ public final class RandomRunsTest {
     }
 
     private void one() {
-        int pick = lot.nextInt(100);
-        if (pick < 30) {
-            change(pick);
-        } else if (pick < 55) {
-            moving(pick - 30);
-        } else if (pick < 75) {
-            asking();
+        int pick = lot.nextInt(changing + moving + asking + scheming);
+        if (pick < changing) {
+            change(lot.nextInt(30));
+        } else if (pick < changing + moving) {
+            moveAbout(lot.nextInt(25));
+        } else if (pick < changing + moving + asking) {
+            ask();
         } else {
-            scheming(pick - 75);
+            makeSchemes(lot.nextInt(25));
         }
     }
 
     private void change(int pick) {
         if (pick == 0) {
-            int[] size = YARDS[lot.nextInt(YARDS.length)];
-            int pegs = lot.nextInt(6) == 0 ? below(7) : size[0];
-            int discs = pegs == size[0] ? size[1] : below(4);
-            Check.due(note("yard", pegs, discs), yard.yard(pegs, discs), plain.yard(pegs, discs));
+            newYard();
         } else if (pick < 5) {
-            int disc = below(yard.size(1));
-            int kind = below(4);
-            Check.due(note("kind", disc, kind), yard.kind(disc, kind), plain.kind(disc, kind));
+            newKind();
         } else if (pick < 14) {
             int a = pegNumber();
             int b = pegNumber();
@@ -110,11 +172,9 @@ public final class RandomRunsTest {
         } else if (pick < 16) {
             Check.due(note("lanes"), yard.lanes(), plain.lanes());
         } else if (pick < 24) {
-            int number = below((int) Math.pow(yard.size(0), yard.size(1)));
-            boolean goal = lot.nextInt(3) != 0;
-            Check.due(note("stand", number, goal ? 1 : 0), yard.stand(number, goal), plain.stand(number, goal));
+            newStand();
         } else if (pick < 27) {
-            int[] n = five(yard.size(0));
+            int[] n = five(plain.size(0));
             Check.due(note("rename", n), yard.rename(n[0], n[1], n[2], n[3], n[4]),
                     plain.rename(n[0], n[1], n[2], n[3], n[4]));
         } else {
@@ -122,9 +182,13 @@ public final class RandomRunsTest {
         }
     }
 
-    private void moving(int pick) {
+    private void moveAbout(int pick) {
         int a = pegNumber();
         int b = pegNumber();
+        for (int k = 0; k < 6 && plain.why(a, b) > 0; k++) {
+            a = pegNumber();
+            b = pegNumber();
+        }
         if (pick < 8) {
             Check.due(note("move", a, b), yard.move(a, b), plain.move(a, b));
         } else if (pick < 12) {
@@ -136,10 +200,10 @@ public final class RandomRunsTest {
         } else if (pick < 20) {
             Check.due(note("cost", a, b), yard.cost(a, b), plain.cost(a, b));
         } else if (pick < 22) {
-            int disc = below(yard.size(1) + 1);
+            int disc = below(plain.size(1) + 1);
             Check.due(note("peg", disc), yard.peg(disc), plain.peg(disc));
         } else if (pick < 24) {
-            int k = below(yard.size(1) + 1);
+            int k = below(plain.size(1) + 1);
             Check.due(note("disc", a, k), yard.disc(a, k), plain.disc(a, k));
         } else {
             Check.due(note("moves"), yard.moves(), plain.moves());
@@ -148,17 +212,17 @@ public final class RandomRunsTest {
         }
     }
 
-    private void asking() {
+    private void ask() {
         switch (lot.nextInt(8)) {
             case 0 -> Check.due(note("fewest"), yard.fewest(), plain.fewest());
             case 1 -> {
                 Check.due(note("plan"), yard.plan(), plain.plan());
-                for (int k = -1; k <= yard.size(6); k++) {
+                for (int k = -1; k <= Math.min(plain.size(6), 6); k++) {
                     Check.due(note("planned", k), yard.planned(k), plain.planned(k));
                 }
             }
             case 2 -> {
-                int k = below(yard.size(6) + 2);
+                int k = below(plain.size(6) + 2);
                 Check.due(note("planned", k), yard.planned(k), plain.planned(k));
             }
             case 3 -> Check.due(note("ways"), yard.ways(), plain.ways());
@@ -172,13 +236,17 @@ public final class RandomRunsTest {
         }
     }
 
-    private void scheming(int pick) {
-        int made = yard.size(3);
+    private void makeSchemes(int pick) {
+        int made = plain.size(3);
         int scheme = below(made);
         if (pick < 2) {
             Check.due(note("scheme"), yard.scheme(), plain.scheme());
         } else if (pick == 2 && made < 8) {
-            towerScheme();
+            if (lot.nextInt(4) == 0) {
+                bushScheme();
+            } else {
+                towerScheme();
+            }
         } else if (pick < 8) {
             int from = below(lot.nextInt(3) == 0 ? 5 : 3);
             int to = below(lot.nextInt(3) == 0 ? 5 : 3);
@@ -190,8 +258,8 @@ public final class RandomRunsTest {
             int height = below(61);
             Check.due(note("count", scheme, height), yard.count(scheme, height), plain.count(scheme, height));
         } else {
-            int height = 1 + below(yard.size(1));
-            int[] n = five(yard.size(0));
+            int height = 1 + below(plain.size(1));
+            int[] n = five(plain.size(0));
             Check.due(note("tried", scheme, height, n[0], n[1], n[2], n[3], n[4]),
                     yard.tried(scheme, height, n[0], n[1], n[2], n[3], n[4]),
                     plain.tried(scheme, height, n[0], n[1], n[2], n[3], n[4]));
@@ -205,6 +273,15 @@ public final class RandomRunsTest {
         addCall(made, made, 1, new int[] {0, 2, 1, 3, 4});
         Check.due(note("single", made, 0, 1), yard.single(made, 0, 1), plain.single(made, 0, 1));
         addCall(made, made, 1, new int[] {2, 1, 0, 3, 4});
+    }
+
+    /** Begins more than 5,000 CALLS at heights of six and more. */
+    private void bushScheme() {
+        int made = yard.scheme();
+        Check.due(note("scheme"), made, plain.scheme());
+        for (int k = 0; k < 6; k++) {
+            addCall(made, made, 1, five(5));
+        }
     }
 
     private void addCall(int scheme, int of, int less, int[] n) {
