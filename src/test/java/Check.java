@@ -25,6 +25,14 @@ final class Check {
         due(call, got ? 1 : 0, want ? 1 : 0);
     }
 
+    static void same(String what, String got, String want) {
+        asked++;
+        if (!got.equals(want)) {
+            wrong++;
+            System.out.println(part + ": " + what + " is " + got + ", due is " + want);
+        }
+    }
+
     static int wrong() {
         return wrong;
     }
