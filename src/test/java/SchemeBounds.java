@@ -77,6 +77,12 @@ final class SchemeBounds {
         new Play(EIGHT_SINGLES).refused(5, "single(0, 0, 1)").say("scheme() = 1").taken("single(1, 0, 1) = 1");
     }
 
+    static void promise27TheNinthStepTouchesNoOtherScheme() {
+        String[] next = {"lanes() = 6", "scheme() = 1", "single(1, 0, 2) = 1", "single(1, 2, 1) = 2"};
+        new Play(EIGHT_SINGLES).say(next).refused(5, "single(0, 3, 4)", "call(0, 0, 1, 4, 3, 2, 1, 0)")
+                .say("tried(1, 1, 0, 1, 2, 3, 4) = 2", "count(1, 1) = 2", "count(0, 1) = 8");
+    }
+
     static void promise27OtherNumbersAheadOfTheNinth() {
         Play.refusals(1, EIGHT_SINGLES, "single(0, 0, 0)", "single(0, 5, 0)", "single(0, 0, -1)", "single(1, 0, 1)");
     }
