@@ -68,7 +68,7 @@ public final class DiscYard {
         board.begin(pegs, discs);
         standing = 0;
         wanted = 0;
-        past.forget();
+        forgetAll();
         return accept();
     }
 
@@ -77,12 +77,12 @@ public final class DiscYard {
             return refuse(WRONG_NUMBER);
         }
         int old = board.kinds[disc];
-        board.setKind(disc, kind);
+        board.kinds[disc] = kind;
         if (!isRight(standing) || !isRight(wanted)) {
-            board.setKind(disc, old);
+            board.kinds[disc] = old;
             return refuse(NOT_RIGHT);
         }
-        past.forget();
+        forgetAll();
         return accept();
     }
 
@@ -91,13 +91,13 @@ public final class DiscYard {
             return refuse(WRONG_NUMBER);
         }
         board.setLane(a, b, cost, strong);
-        past.forget();
+        forgetAll();
         return accept();
     }
 
     public int lanes() {
         board.openAll();
-        past.forget();
+        forgetAll();
         return board.countLanes();
     }
 
@@ -275,7 +275,7 @@ public final class DiscYard {
         standing = renamed(standing, names);
         wanted = renamed(wanted, names);
         board.renameLanes(names);
-        past.forget();
+        forgetAll();
         return accept();
     }
 
@@ -284,7 +284,7 @@ public final class DiscYard {
         int old = standing;
         standing = wanted;
         wanted = old;
-        past.forget();
+        forgetAll();
         return board.countLanes();
     }
 
@@ -383,6 +383,13 @@ public final class DiscYard {
         return NONE;
     }
 
+    /** In another yard the moves that were done, and all that was found out, no longer hold. */
+    private void forgetAll() {
+        past.forget();
+        search.forget();
+        knots.forget();
+    }
+
     private boolean isRight(int number) {
         look.read(board, number);
         return look.right;
@@ -433,8 +440,6 @@ public final class DiscYard {
         int pegs;
         int discs;
         int stands;
-        /** Grows with every change, so that what was found out earlier is known to be stale. */
-        int version;
         final int[] weights = new int[MAX_DISCS];
         final int[] kinds = new int[MAX_DISCS];
         final int[] costs = new int[MAX_PEGS * MAX_PEGS];
@@ -457,7 +462,6 @@ public final class DiscYard {
             }
             Arrays.fill(kinds, PLAIN);
             Arrays.fill(costs, 0);
-            version++;
         }
 
         boolean isPeg(int peg) {
@@ -468,15 +472,9 @@ public final class DiscYard {
             return disc >= 0 && disc < discs;
         }
 
-        void setKind(int disc, int kind) {
-            kinds[disc] = kind;
-            version++;
-        }
-
         void setLane(int a, int b, int cost, boolean isStrong) {
             costs[a * MAX_PEGS + b] = cost;
             strong[a * MAX_PEGS + b] = isStrong;
-            version++;
         }
 
         void openAll() {
@@ -699,16 +697,19 @@ public final class DiscYard {
         private int[] before = new int[0];
         /** 1 for a stand from which a cheapest row goes on to the one that is wanted. */
         private int[] leads = new int[0];
+        /** NONE if what was found out no longer holds. */
         private int start = NONE;
-        private int version = NONE;
         int settled;
 
+        void forget() {
+            start = NONE;
+        }
+
         void from(Board board, Look look, int number) {
-            if (start == number && version == board.version) {
+            if (start == number) {
                 return;
             }
             start = number;
-            version = board.version;
             prepare(board.stands);
             offer(number, 0, 1);
             int now = 0;
@@ -873,14 +874,18 @@ public final class DiscYard {
         private int marked;
         private int depth;
         private int piled;
-        private int version = NONE;
+        private boolean found;
         int sets;
 
+        void forget() {
+            found = false;
+        }
+
         void find(Board board, Look look) {
-            if (version == board.version) {
+            if (found) {
                 return;
             }
-            version = board.version;
+            found = true;
             prepare(board.stands);
             for (int number = 0; number < board.stands; number++) {
                 if (marks[number] == 0) {

@@ -37,6 +37,10 @@ final class Check {
         return wrong;
     }
 
+    static int asked() {
+        return asked;
+    }
+
     static void end() {
         if (wrong != 0) {
             System.out.println(wrong + " of " + asked + " answers are not as due");

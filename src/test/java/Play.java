@@ -27,18 +27,32 @@ final class Play {
 
     private static final int MOST_CALLS = 512;
     private static final Pattern ROW = Pattern.compile("(\\w+)\\(([^)]*)\\)(?: = (\\S+))?");
-    private static final Map<String, Method> FACE = face();
+    private static final Map<String, Method> FACE = face(DiscYard.class);
+    private static final Map<String, Method> MODEL = face(PlainYard.class);
 
-    private final DiscYard yard = new DiscYard();
+    private final Object yard;
+    private final Map<String, Method> methods;
     private int calls;
 
     Play(String... rows) {
+        yard = new DiscYard();
+        methods = FACE;
         say(rows);
     }
 
-    private static Map<String, Method> face() {
+    private Play(PlainYard model) {
+        yard = model;
+        methods = MODEL;
+    }
+
+    /** The same run of calls on the slow model. */
+    static Play onModel(String... rows) {
+        return new Play(new PlainYard()).say(rows);
+    }
+
+    private static Map<String, Method> face(Class<?> holder) {
         Map<String, Method> face = new TreeMap<>();
-        for (Method method : DiscYard.class.getDeclaredMethods()) {
+        for (Method method : holder.getDeclaredMethods()) {
             face.put(method.getName(), method);
         }
         return face;
@@ -123,7 +137,7 @@ final class Play {
 
     long ask(String row) {
         Matcher told = parsed(row);
-        Method method = FACE.get(told.group(1));
+        Method method = methods.get(told.group(1));
         String[] words = told.group(2).isEmpty() ? new String[0] : told.group(2).split(", ");
         Class<?>[] types = method.getParameterTypes();
         Object[] values = new Object[words.length];
@@ -166,7 +180,7 @@ final class Play {
     }
 
     /** All that the calls that change nothing (but failed()) show, and what undo() and redo() lead to. */
-    private String picture() {
+    String picture() {
         StringBuilder text = new StringBuilder();
         for (int what = 0; what < 8; what++) {
             show(text, "size(" + what + ")");

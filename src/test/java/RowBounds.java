@@ -396,6 +396,17 @@ final class RowBounds {
                 "cost(1, 3) = 8", "number(false) = 78124", "number(true) = 0", "size(2) = 2");
     }
 
+    static void promise24RowsAnewThoughTheStandIsAsItWas() {
+        Play play = new Play("lane(0, 1, 5, true) = true", "stand(1, true) = true", "farthest() = 1", "fewest() = 5");
+        joined(play, 3, 1, 2, 1);
+        play.taken("rename(0, 2, 1, 3, 4) = true").say("number(false) = 0", "number(true) = 2", "farthest() = 2",
+                "fewest() = 5", "plan() = 1", "planned(0) = 2");
+        joined(play, 3, 1, 2, 1);
+        // PEG 1 is PEG 0 now: of it, not of the STAND's old PEG, a LANE leads on.
+        play.taken("rename(1, 0, 2, 3, 4) = true").say("number(false) = 1", "reach() = 2", "stand(0, false) = true",
+                "reach() = 1");
+    }
+
     // ---- promise 25, about
 
     static void promise25NoLanes() {
@@ -438,6 +449,13 @@ final class RowBounds {
                 "number(false) = 5", "number(true) = 6", "cost(0, 1) = 5");
         new Play("yard(5, 7) = true", "stand(78124, true) = true", "about() = 0", "number(false) = 78124",
                 "number(true) = 0");
+    }
+
+    static void promise25RowsAnewThoughTheStandIsAsItWas() {
+        Play play = new Play("lane(0, 1, 5, true) = true", "lane(0, 2, 5, true) = true", "reach() = 3", "far() = 5");
+        joined(play, 3, 1, 2, 1);
+        play.say("about() = 2", "number(false) = 0", "number(true) = 0", "reach() = 1", "far() = 0");
+        joined(play, 3, 1, 1, 1);
     }
 
     static void promise25NothingCanBeUndone() {

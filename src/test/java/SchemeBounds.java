@@ -312,8 +312,14 @@ final class SchemeBounds {
     static void promise30OthersLieBelow() {
         // Discs 2 .. 6 stay on role 0's PEG, below the pile, and are no part of it.
         yard(3, 7).say(TOWER).taken("tried(0, 2, 2, 0, 1, 3, 4) = 3");
-        yard(3, 7).say("kind(1, 3) = true", "kind(2, 3) = true").say(TOWER).taken("tried(0, 1, 0, 1, 2, 3, 4) = 1",
-                "tried(0, 2, 0, 1, 2, 3, 4) = -2").say("failed() = 1");
+        for (String names : new String[] {"0, 1, 2", "0, 2, 1", "1, 0, 2", "1, 2, 0", "2, 0, 1", "2, 1, 0"}) {
+            // Disc 2 is right below disc 1, so that both would go.
+            yard(3, 7).say("kind(1, 3) = true", "kind(2, 3) = true").say(TOWER).taken("tried(0, 1, " + names + ", 3, 4) = 1",
+                    "tried(0, 2, " + names + ", 3, 4) = -2").say("failed() = 1");
+            // Nothing comes to lie on the RINGED disc 2, whatever the PEGS.
+            yard(3, 3).say("stand(4, false) = true", "stand(4, true) = true", "kind(2, 2) = true").say(TOWER)
+                    .taken("tried(0, 2, " + names + ", 3, 4) = 3");
+        }
     }
 
     static void promise30StandStays() {
