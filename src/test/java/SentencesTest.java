@@ -3,6 +3,7 @@ import java.lang.reflect.Constructor;
 import java.lang.reflect.Field;
 import java.lang.reflect.Method;
 import java.lang.reflect.Modifier;
+import java.nio.file.Path;
 import java.util.Set;
 import java.util.TreeSet;
 
@@ -15,7 +16,7 @@ public final class SentencesTest {
     }
 
     public static void main(String[] args) throws IOException {
-        Walk walk = new Walk(System.getProperty("discyard.document", "../shared/DOC.md"),
+        Walk walk = new Walk(Path.of(System.getProperty("discyard.document", "../shared/DOC.md")),
                 args.length > 0 ? Integer.parseInt(args[0]) : 0);
         whatItIs(walk);
         termsOfTheYard(walk);
